@@ -259,6 +259,10 @@ public final class JuryDesk {
         return heat.rows;
     }
 
+    private static boolean holds(int set, int a) {
+        return (set >> a & 1) != 0;
+    }
+
     private static long inLowestTerms(long num, long den, boolean numerator) {
         long divisor = commonDivisor(num, den);
         return numerator ? num / divisor : den / divisor;
@@ -396,10 +400,6 @@ public final class JuryDesk {
                 }
             }
         }
-
-        static boolean holds(int set, int a) {
-            return (set >> a & 1) != 0;
-        }
     }
 
     /** Why the latest refused verdict was refused; kept as it was told, whatever comes later. */
@@ -449,7 +449,8 @@ public final class JuryDesk {
 
     /**
      * All sets that can take the first ranks of a heat. Each set stands at its own number, so that
-     * the orders need not be gone through one by one.
+     * the orders need not be gone through one by one. Bits are looked at in place here, as the
+     * loops over all sets run up to a million times a call.
      */
     private static final class Lattice {
         /** In how many ways a set's entries can take the first ranks; 0 when they can't. */
@@ -525,7 +526,7 @@ public final class JuryDesk {
                 if ((ready >> a & 1) != 0) {
                     long ways = heads[set] * tails[set | 1 << a];
                     heat.tally.standing[a * ENTRIES + rank] += ways;
-                    heat.tally.add(a, rest & ~heat.below[a], ways);
+                    heat.tally.add(a, rest, ways);
                 }
             }
         }
@@ -633,9 +634,9 @@ public final class JuryDesk {
         }
 
         /** Only pairs with a greater second entry are added up: the others come from these. */
-        void add(int a, int others, long ways) {
+        void add(int a, int rest, long ways) {
             for (int b = a + 1; b < ENTRIES; b++) {
-                if ((others >> b & 1) != 0) {
+                if ((rest >> b & 1) != 0) {
                     ahead[a * ENTRIES + b] += ways;
                 }
             }
@@ -645,19 +646,11 @@ public final class JuryDesk {
             for (int a = 0; a < ENTRIES; a++) {
                 for (int b = a + 1; b < ENTRIES; b++) {
                     if (heat.has(a) && heat.has(b)) {
-                        completePair(a, b, heat.isAbove(a, b));
+                        ahead[b * ENTRIES + a] = total - ahead[a * ENTRIES + b];
                     }
                 }
             }
             known = true;
-        }
-
-        private void completePair(int a, int b, boolean above) {
-            int pair = a * ENTRIES + b;
-            if (above) {
-                ahead[pair] = total;
-            }
-            ahead[b * ENTRIES + a] = total - ahead[pair];
         }
 
         long sumOfRanks(int a) {
@@ -711,7 +704,7 @@ public final class JuryDesk {
         int tied(int i) {
             int left = i;
             for (int a = 0; a < ENTRIES; a++) {
-                if (Heat.holds(tieSet, a)) {
+                if (holds(tieSet, a)) {
                     if (left == 0) {
                         return a;
                     }
@@ -737,7 +730,7 @@ public final class JuryDesk {
 
         private int leastFollower(Heat heat, int a, int uppers, int lowers, int pairs) {
             for (int b = 0; b < ENTRIES; b++) {
-                if (Heat.holds(heat.below[a] & lowers, b)
+                if (holds(heat.below[a] & lowers, b)
                         && mostPairs(heat, uppers, lowers & ~(1 << b)) == pairs - 1) {
                     return b;
                 }
@@ -751,7 +744,7 @@ public final class JuryDesk {
             int wanted = width;
             for (int a = 0; a < ENTRIES; a++) {
                 int others = pool & ~((2 << a) - 1) & ~heat.below[a] & ~heat.above[a];
-                if (Heat.holds(pool, a) && widthOf(heat, others) == wanted - 1) {
+                if (holds(pool, a) && widthOf(heat, others) == wanted - 1) {
                     tieSet |= 1 << a;
                     pool = others;
                     wanted--;
@@ -769,7 +762,7 @@ public final class JuryDesk {
             Arrays.fill(previous, NONE);
             int pairs = 0;
             for (int a = 0; a < ENTRIES; a++) {
-                if (Heat.holds(uppers, a) && pairUp(heat, a, lowers)) {
+                if (holds(uppers, a) && pairUp(heat, a, lowers)) {
                     pairs++;
                 }
             }
@@ -785,7 +778,7 @@ public final class JuryDesk {
             for (int i = 0; i < waiting && i < ENTRIES; i++) {
                 int a = queue[i];
                 for (int b = 0; b < ENTRIES; b++) {
-                    if (Heat.holds(heat.below[a] & fresh, b)) {
+                    if (holds(heat.below[a] & fresh, b)) {
                         fresh &= ~(1 << b);
                         reachedFrom[b] = a;
                         if (previous[b] == NONE) {

@@ -8,7 +8,8 @@ import java.util.Random;
 /**
  * Seeded runs beside a slow desk that takes the document at its word: for small heats it writes
  * down every order, every set and every way of rows. Large heats are held against a count of
- * another kind and against what must agree among the answers.
+ * another kind and against what must agree among the answers. A desk is asked more often here than
+ * the document promises to answer, so that each change is held against all that is told.
  */
 public final class SlowDeskTest {
     private static final int NONE = -1;
