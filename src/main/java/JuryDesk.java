@@ -9,6 +9,7 @@ public final class JuryDesk {
 
     private static final int HEATS = 12;
     private static final int ENTRIES = 16;
+    private static final int SETS = 1 << ENTRIES;
     private static final int HALF_ENTRIES = 8;
     private static final int HALF = 1 << HALF_ENTRIES;
     private static final int VERDICTS = 400;
@@ -449,21 +450,21 @@ public final class JuryDesk {
 
     /**
      * All sets that can take the first ranks of a heat. Each set stands at its own number, so that
-     * the orders need not be gone through one by one. Bits are looked at in place here, as the
-     * loops over all sets run up to a million times a call.
+     * the orders need not be gone through one by one. Its rows have room for every set from the
+     * start: rows that grew with the heats would be made again and again. Bits are looked at in
+     * place here, as the loops over all sets run up to a million times a call.
      */
     private static final class Lattice {
         /** In how many ways a set's entries can take the first ranks; 0 when they can't. */
-        private long[] heads = new long[1];
+        private final long[] heads = new long[SETS];
         /** In how many ways the other entries can stand behind such a set. */
-        private long[] tails = new long[1];
+        private final long[] tails = new long[SETS];
 
         /** Of each half of a set: all entries below one of its entries, as these can't come yet. */
         private final int[] lowBars = new int[HALF];
         private final int[] highBars = new int[HALF];
 
         void load(Heat heat) {
-            makeRoom(heat.live + 1);
             setBars(heat.below);
             countHeads(heat);
             countTails(heat);
@@ -543,13 +544,6 @@ public final class JuryDesk {
         /** Which of the entries that are still to come may come next. */
         private int readyOf(int rest) {
             return rest & ~(lowBars[rest & HALF - 1] | highBars[rest >> HALF_ENTRIES]);
-        }
-
-        private void makeRoom(int size) {
-            if (heads.length < size) {
-                heads = new long[size];
-                tails = new long[size];
-            }
         }
 
         private void countHeads(Heat heat) {
