@@ -1,7 +1,11 @@
+import java.io.IOException;
 import java.lang.annotation.Retention;
 import java.lang.annotation.RetentionPolicy;
 import java.lang.reflect.InvocationTargetException;
 import java.lang.reflect.Method;
+import java.nio.charset.StandardCharsets;
+import java.nio.file.Files;
+import java.nio.file.Path;
 import java.util.ArrayList;
 import java.util.Arrays;
 import java.util.Comparator;
@@ -9,14 +13,17 @@ import java.util.List;
 import java.util.Random;
 import java.util.function.Consumer;
 import java.util.function.ToLongFunction;
+import java.util.regex.Matcher;
+import java.util.regex.Pattern;
 
 /**
- * Each sentence of the document that names a boundary case, with a test of its own. A test bears
- * the words that it holds the class to, and a name that begins with where they stand: c for the
- * sentence on the calls, t for the terms, p and a number for a promise. No desk is called here more
- * often than the document allows.
+ * Each sentence of the document, also each boundary case that it names, with a test of its own. A
+ * test bears the words that it holds the class to, and a name that begins with where they stand: c
+ * for what comes before the terms, t for the terms, p and a number for a promise. No word of the
+ * document may be left without a test. No desk is called here more often than the document allows,
+ * but for the test of what comes behind that.
  */
-public final class BoundaryTest {
+public final class DocumentTest {
     private static final int NONE = -1;
     private static final int FULL = -2;
     private static final int[] NO_ENTRY = {-1, 16, 17, 31, 32, 48, 64, Integer.MIN_VALUE, Integer.MAX_VALUE};
@@ -24,6 +31,10 @@ public final class BoundaryTest {
     private static final int[] NO_RANK = {0, -1, 17, 32, Integer.MIN_VALUE, Integer.MAX_VALUE};
     private static final long FACTORIAL_15 = 1307674368000L;
     private static final long FACTORIAL_16 = 20922789888000L;
+
+    /** From the project's directory, where .ci/run goes. */
+    private static final Path DOCUMENT = Path.of("../shared/DOC.md");
+    private static final Pattern SECTION = Pattern.compile("(?ms)^## (.*?)\\n(.*?)(?=^## |\\z)");
 
     private static int wrong = 0;
     private static String current = "";
@@ -33,9 +44,9 @@ public final class BoundaryTest {
         String value();
     }
 
-    public static void main(String[] args) throws IllegalAccessException {
+    public static void main(String[] args) throws IOException, IllegalAccessException {
         List<Method> tests = new ArrayList<>();
-        for (Method method : BoundaryTest.class.getDeclaredMethods()) {
+        for (Method method : DocumentTest.class.getDeclaredMethods()) {
             if (method.isAnnotationPresent(Says.class)) {
                 tests.add(method);
             }
@@ -44,9 +55,9 @@ public final class BoundaryTest {
         for (Method test : tests) {
             runTest(test);
         }
-        checkThatAllPromisesAreTested(tests);
+        checkThatAllWordsAreTested(tests);
         System.out.println(wrong == 0
-            ? tests.size() + " boundary tests hold" : wrong + " answers are not as due");
+            ? tests.size() + " tests of sentences hold" : wrong + " answers are not as due");
         if (wrong != 0) {
             System.exit(1);
         }
@@ -62,12 +73,45 @@ public final class BoundaryTest {
         }
     }
 
-    private static void checkThatAllPromisesAreTested(List<Method> tests) {
-        current = "tests";
-        for (int promise = 1; promise <= 23; promise++) {
-            String start = "p" + promise / 10 + promise % 10;
-            due("promise " + promise + " has one",
-                tests.stream().anyMatch(test -> test.getName().startsWith(start)), true);
+    private static void checkThatAllWordsAreTested(List<Method> tests) throws IOException {
+        current = "the document";
+        int sections = 0;
+        Matcher section = SECTION.matcher(Files.readString(DOCUMENT, StandardCharsets.UTF_8));
+        while (section.find()) {
+            String start = startOf(section.group(1));
+            if (!start.isEmpty()) {
+                sections++;
+                dueTested(section.group(1), section.group(2), tests, start);
+            }
+        }
+        due("sections", sections, 25);
+    }
+
+    /** How the names of the tests of a section begin; of the others nothing is to be tested here. */
+    private static String startOf(String title) {
+        if (title.startsWith("Promise ")) {
+            int promise = Integer.parseInt(title.substring(8, title.indexOf(':')));
+            return "p" + promise / 10 + promise % 10;
+        }
+        return title.equals("What it is") ? "c" : title.equals("Terms") ? "t" : "";
+    }
+
+    private static void dueTested(String title, String text, List<Method> tests, String start) {
+        // What stands in backquotes is the face, which FaceTest has.
+        String words = text.replaceAll("`.*?`", "");
+        char[] left = words.toCharArray();
+        for (Method test : tests) {
+            String says = test.getAnnotation(Says.class).value();
+            int at = test.getName().startsWith(start) ? words.indexOf(says) : -1;
+            while (at >= 0) {
+                Arrays.fill(left, at, at + says.length(), ' ');
+                at = words.indexOf(says, at + 1);
+            }
+        }
+        String untested = new String(left).replaceAll("[^\\p{L}\\p{N}]+", " ").trim();
+        if (!untested.isEmpty()) {
+            wrong++;
+            System.out.println(title + ": no test has the words: " + untested);
         }
     }
 
@@ -318,6 +362,82 @@ public final class BoundaryTest {
         due("count" + at, desk.count(h, 0), 0);
     }
 
+    // ---- what it is
+
+    @Says("A jury's desk: verdicts that one entry is better than another, as they come and are taken back")
+    private static void c01VerdictsComeAndAreTakenBack() {
+        JuryDesk desk = desk(5);
+        int[] pairs = {0, 1, 1, 2, 0, 2, 3, 4, 2, 3};
+        long[] told = {120, 60, 20, 20, 10, 1};
+        due("orders at first", desk.orders(0), told[0]);
+        for (int v = 1; v <= 5; v++) {
+            due("better, verdict " + v, desk.better(0, pairs[2 * v - 2], pairs[2 * v - 1]), v);
+            due("orders with verdict " + v, desk.orders(0), told[v]);
+        }
+        for (int v = 5; v >= 1; v--) {
+            due("withdraw " + v, desk.withdraw(0, v), true);
+            due("orders without verdict " + v, desk.orders(0), told[v - 1]);
+        }
+    }
+
+    @Says("of all final orders that are still possible it tells exactly how many there are, "
+        + "at which ranks entries stand")
+    private static void c02OrdersAndRanksAreExact() {
+        JuryDesk desk = desk(5, 4, 1, 1, 0, 3, 0, 4, 2);
+        int[] found = new int[26];
+        int[] row = new int[5];
+        for (int code = 0; code < 3125; code++) {
+            int set = 0;
+            for (int i = 0, rest = code; i < 5; i++, rest /= 5) {
+                row[i] = rest % 5;
+                set |= 1 << row[i];
+            }
+            if (set == 31 && standsAhead(row, 4, 1) && standsAhead(row, 1, 0)
+                    && standsAhead(row, 3, 0) && standsAhead(row, 4, 2)) {
+                found[25]++;
+                for (int i = 0; i < 5; i++) {
+                    found[row[i] * 5 + i]++;
+                }
+            }
+        }
+        due("orders(0)", desk.orders(0), found[25]);
+        for (int i = 0; i < 25; i++) {
+            due("atRank(0, " + i / 5 + ", " + (i % 5 + 1) + ")", desk.atRank(0, i / 5, i % 5 + 1), found[i]);
+        }
+    }
+
+    private static boolean standsAhead(int[] row, int a, int b) {
+        for (int entry : row) {
+            if (entry == a || entry == b) {
+                return entry == a;
+            }
+        }
+        return false;
+    }
+
+    @Says("which question splits them best, how wide a tie may be, and in how few rows all entries go")
+    private static void c03QuestionsLeadToOneOrder() {
+        JuryDesk desk = desk(6);
+        int asked = 0;
+        while (desk.orders(0) > 1 && asked < 15) {
+            int a = desk.ask(0, 0);
+            int b = desk.ask(0, 1);
+            long ahead = desk.before(0, a, b);
+            long behind = desk.before(0, b, a);
+            due("both answers leave all orders", ahead + behind, desk.orders(0));
+            due("rows of " + desk.orders(0) + " orders", desk.chains(0), desk.tie(0));
+            // The answer that leaves more orders, so that no lucky one shortens the way.
+            due("verdict", ahead >= behind ? desk.better(0, a, b) : desk.better(0, b, a), asked + 1);
+            asked++;
+            due("orders after verdict " + asked, desk.orders(0), Math.max(ahead, behind));
+        }
+        due("orders at last", desk.orders(0), 1);
+        due("720 orders need ten questions or more", asked >= 10 && asked <= 15, true);
+        dueAsk(desk, NONE, NONE);
+        due("tie at last", desk.tie(0), 1);
+        due("rows at last", desk.chains(0), 1);
+    }
+
     // ---- the calls of an object
 
     @Says("An object is used for at most 512 calls after it has been made")
@@ -418,6 +538,21 @@ public final class BoundaryTest {
         }
     }
 
+    @Says("what later calls answer is free")
+    private static void c4LaterCallsEndAndThrowNothing() {
+        int[] numbers = {Integer.MIN_VALUE, -2, -1, 0, 1, 2, 3, 11, 12, 15, 16, 17, 400, Integer.MAX_VALUE};
+        for (int seed = 1; seed <= 5; seed++) {
+            Random random = new Random(seed);
+            JuryDesk desk = desk(6);
+            for (int call = 0; call < 4000; call++) {
+                int h = random.nextInt(8) == 0 ? numbers[random.nextInt(numbers.length)] : 0;
+                int x = random.nextInt(4) == 0 ? numbers[random.nextInt(numbers.length)] : random.nextInt(6);
+                int y = random.nextInt(4) == 0 ? numbers[random.nextInt(numbers.length)] : random.nextInt(6);
+                wildCall(desk, 3 + random.nextInt(37), h, x, y, random.nextInt(800));
+            }
+        }
+    }
+
     // ---- terms
 
     @Says("HEATS are 0 .. 11")
@@ -514,7 +649,7 @@ public final class BoundaryTest {
         due("in force, the other one withdrawn", desk.count(0, 2), 1);
     }
 
-    @Says("verdicts in force lead from it down to that, one or more")
+    @Says("An entry is SETTLED ABOVE another one if verdicts in force lead from it down to that, one or more")
     private static void t09NoVerdictSettlesNothing() {
         JuryDesk desk = desk(2);
         due("settled(0, 0, 0)", desk.settled(0, 0, 0), false);
@@ -1580,6 +1715,33 @@ public final class BoundaryTest {
 
     // ---- promise 13
 
+    @Says("The mean of the ranks of a over all orders")
+    private static void p13TheMeanIsOverAllOrders() {
+        // The orders are 0123, 0132, 1023, 1032 and 1302.
+        JuryDesk desk = letterN();
+        dueMean(desk, 0, 1 + 1 + 2 + 2 + 3, 5);
+        dueMean(desk, 1, 2 + 2 + 1 + 1 + 1, 5);
+        dueMean(desk, 2, 3 + 4 + 3 + 4 + 4, 5);
+        dueMean(desk, 3, 4 + 3 + 4 + 3 + 2, 5);
+    }
+
+    @Says("The mean of the ranks of a over all orders")
+    private static void p13TheMeanIsThatOfTheRanksTold() {
+        JuryDesk desk = desk(16, 0, 5, 5, 7, 3, 7, 2, 9, 9, 11, 14, 2, 8, 15, 1, 8);
+        scratched(desk, 9, 12);
+        for (int a = 0; a < 16; a++) {
+            long sum = 0;
+            for (int r = 1; r <= 16; r++) {
+                sum += r * desk.atRank(0, a, r);
+            }
+            long numerator = desk.meanRank(0, a, true);
+            long denominator = desk.meanRank(0, a, false);
+            boolean there = a != 9 && a != 12;
+            due("mean of " + a, there ? sum / (desk.orders(0) / denominator) : 0, numerator);
+            due("orders are a multiple of " + denominator, there ? desk.orders(0) % denominator : 0, 0);
+        }
+    }
+
     @Says("in lowest terms: its numerator, or its denominator")
     private static void p13LowestTerms() {
         dueMean(desk(16), 15, 17, 2);
@@ -1631,6 +1793,15 @@ public final class BoundaryTest {
         dueChance(14, 7, 2, 1);
         dueChance(7, 14, 1, 2);
         dueChance(7, 15, 7, 15);
+    }
+
+    @Says("its numerator, or its denominator")
+    private static void p14NumeratorOrDenominator() {
+        JuryDesk desk = new JuryDesk();
+        due("denominator of 84 over 36", desk.chance(84, 36, false), 3);
+        due("numerator of 84 over 36", desk.chance(84, 36, true), 7);
+        due("numerator of 36 over 84", desk.chance(36, 84, true), 3);
+        due("denominator of 36 over 84", desk.chance(36, 84, false), 7);
     }
 
     @Says("(0 as 0 over 1)")
@@ -1883,6 +2054,30 @@ public final class BoundaryTest {
     }
 
     // ---- promise 18
+
+    @Says("The pair of entries")
+    private static void p18OneOpenPairThatNoOtherOneComesBefore() {
+        JuryDesk desk = scratched(desk(16, 0, 5, 5, 7, 3, 7, 2, 9, 9, 11, 14, 2, 8, 15, 1, 8, 6, 10), 9, 0, 4);
+        int lower = NONE;
+        int upper = NONE;
+        long least = Long.MAX_VALUE;
+        for (int a = 0; a < 16; a++) {
+            for (int b = a + 1; b < 16; b++) {
+                long ahead = desk.before(0, a, b);
+                long behind = desk.before(0, b, a);
+                boolean open = ahead > 0 && behind > 0;
+                if (open && Math.abs(ahead - behind) < least) {
+                    least = Math.abs(ahead - behind);
+                    lower = a;
+                    upper = b;
+                }
+            }
+        }
+        dueAsk(desk, lower, upper);
+        due("the lower one is there", desk.better(0, lower, lower), 0);
+        due("the upper one is there", desk.better(0, upper, upper), 0);
+        due("none is settled", desk.settled(0, lower, upper) || desk.settled(0, upper, lower), false);
+    }
 
     @Says("NONE when all is settled")
     private static void p18AllSettled() {
